@@ -1430,19 +1430,14 @@ public final class TallySlate {
         }
 
         private int bulkOf(long thing) {
+            int kind = (int) (thing >> 32);
             int at = (int) thing;
-            int size = at >= 0 && at < used ? (int) cells[at] : 0;
-            int note = at >= 0 && at + 1 < used ? (int) cells[at + 1] : 0;
-            switch ((int) (thing >> 32)) {
-                case ROW:
-                    return 1 + size;
-                case TABLE:
-                    return 1 + size + note;
-                case PACK:
-                    return note;
-                default:
-                    return 1;
+            if (kind < ROW || kind > PACK || at < 0 || at >= used) {
+                return 1;
             }
+            // A ROW has no note behind its SIZE, and may be the last thing there is.
+            int note = kind == ROW || at + 1 >= used ? 0 : (int) cells[at + 1];
+            return kind == PACK ? note : 1 + (int) cells[at] + note;
         }
 
         private int depthOf(long thing) {
