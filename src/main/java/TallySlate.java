@@ -45,6 +45,8 @@ public final class TallySlate {
     private int taped;
     private final Parser parser = new Parser();
     private Program program = new Program();
+    // Where the next text goes, so that the one before stays if that has a fault.
+    private Program spare = new Program();
     private int faultKind = NONE;
     private int faultPlace = NONE;
     private Shelves shelves = new Shelves();
@@ -83,14 +85,15 @@ public final class TallySlate {
             faultPlace = MOST_TEXT;
             return NONE;
         }
-        Program next = new Program();
-        parser.compile(tape, n, next);
+        parser.compile(tape, n, spare);
         faultKind = parser.failKind();
         faultPlace = parser.failPlace();
         if (faultKind != 0) {
             return NONE;
         }
-        program = next;
+        Program before = program;
+        program = spare;
+        spare = before;
         return program.functions();
     }
 
@@ -141,7 +144,7 @@ public final class TallySlate {
         }
         long thing = lookAt(shelf);
         said.empty();
-        said.form(heap, thing, 0);
+        said.tell(heap, thing);
         return said.total();
     }
 
@@ -551,6 +554,11 @@ public final class TallySlate {
         private final int[] variables = new int[MOST_FUNCTIONS];
         private final int[] namePlaces = new int[MOST_FUNCTIONS];
 
+        void empty() {
+            length = 0;
+            functions = 0;
+        }
+
         int functions() {
             return functions;
         }
@@ -683,6 +691,7 @@ public final class TallySlate {
         void compile(byte[] text, int n, Program into) {
             tokens.scan(text, n);
             program = into;
+            program.empty();
             open = 0;
             calls = 0;
             failKind = 0;
@@ -1414,7 +1423,11 @@ public final class TallySlate {
             }
         }
 
-        boolean alike(long x, long y, int depth) {
+        boolean alike(long x, long y) {
+            return alikeWithin(x, y, 0);
+        }
+
+        private boolean alikeWithin(long x, long y, int depth) {
             int size = sizeOf(x);
             if (kindOf(x) != kindOf(y) || size != sizeOf(y)) {
                 return false;
@@ -1424,7 +1437,7 @@ public final class TallySlate {
             }
             boolean like = true;
             for (int i = 0; i < size && like; i++) {
-                like = alike(part(x, i), part(y, i), depth + 1);
+                like = alikeWithin(part(x, i), part(y, i), depth + 1);
             }
             return like;
         }
@@ -1677,7 +1690,7 @@ public final class TallySlate {
                 case OUTER:
                     return outer(x, y);
                 case SAME:
-                    return thing(INT, heap.alike(x, y, 0) ? 1 : 0);
+                    return thing(INT, heap.alike(x, y) ? 1 : 0);
                 default:
                     return refusal(WRONG_KIND);
             }
@@ -2149,7 +2162,11 @@ public final class TallySlate {
             return k >= 0 && k < total && k < kept.length ? kept[k] : NONE;
         }
 
-        void form(Heap heap, long thing, int depth) {
+        void tell(Heap heap, long thing) {
+            form(heap, thing, 0);
+        }
+
+        private void form(Heap heap, long thing, int depth) {
             int kind = kindOf(thing);
             if (kind == INT || depth > MOST_DEPTH + 1) {
                 number(lowOf(thing));
@@ -2404,7 +2421,7 @@ public final class TallySlate {
                     nextRound(argument);
                     break;
                 case Program.SAY:
-                    said.form(heap, pop(), 0);
+                    said.tell(heap, pop());
                     said.put('\n');
                     break;
                 case Program.RETURN:
