@@ -10,6 +10,7 @@ public final class BuiltInsTest {
         joining();
         takingAndDropping();
         choosing();
+        neighbours();
         depthAndBulk();
         BENCH.end();
     }
@@ -133,6 +134,18 @@ public final class BuiltInsTest {
         fails(1, "cut([1], [-1, 2])", "cut([1], [-1])", "cut([1, 2], [5, -1])");
         fails(4, "cut([1], [])", "cut([1, 2], [1])", "cut([1], [2])", "cut([], [2147483647, 2147483647, 2])", "cut([], [1])");
         fails(3, "cut(1, [1])", "cut([1], 1)", "cut([[1]], [1])", "cut([1], [[1]])", "cut(box(), [])");
+    }
+
+    /** What stands behind a ROW where things are kept is none of its INTS. */
+    private static void neighbours() {
+        String[][] due = {{"rows(a)", "{[0][0 0]}"}, {"group(a)", "{[][0][1]}"}, {"cut([7, 8, 9], a)", "{[7][8 9]}"}, {"sum(a)", "3"},
+            {"max(a)", "2"}, {"min(a)", "1"}, {"scan(a)", "[1 3]"}, {"sort(a)", "[1 2]"}, {"grade(a)", "[0 1]"}, {"find(a, 40)", "-1"},
+            {"find(a, -3)", "-1"}, {"find([1], a)", "[0 -1]"}, {"outer(a, a)", "{[1 2][2 4]}"}, {"pick(a, a)", "[1 2]"}, {"[5, 6, 7][a]", "[6 7]"},
+            {"take(3, a)", "[1 2 0]"}, {"join(a, a)", "[1 2 1 2]"}, {"-a", "[-1 -2]"}, {"each(l, a)", "[2 3]"}, {"fold(m, 0, a)", "3"}};
+        for (String[] d : due) {
+            BENCH.gives("fn k() { a = [1, 2]; b = [-3, 40, -5]; c = [40, -3]; return " + d[0] + "; } fn l(x) { return x + 1; } "
+                    + "fn m(x, y) { return x + y; }", d[1]);
+        }
     }
 
     private static void choosing() {

@@ -78,7 +78,7 @@ public final class FaultTest {
             "^k", "^fnk() {}", "^1", "^}", "fn^", "fn ^1() {}", "fn ^fn() {}", "fn ^row() {}", "fn ^each() {}",
             "fn k^", "fn k^{}", "fn k(^", "fn k(^,) {}", "fn k(x ^y) {}", "fn k(x,^) {}", "fn k(^sum) {}",
             "fn k(^1) {}", "fn k()^", "fn k() ^x", "fn k() {^", "fn k() {} ^x", "fn k() {}^}", "fn k() {}^;",
-            "fn k() {  ^", "fn k() { # }^"}) {
+            "fn k() {  ^", "fn k() { # }^", "fn k() { x = 1 ==^", "fn k() { x = y ^=", "fn k() { x = y <^", "fn k() { k^", "fn k() { x = k^"}) {
             BENCH.fault(text, 2);
         }
         for (String text : new String[] {

@@ -130,6 +130,7 @@ public final class ShelfTest {
                 BENCH.due("same(" + i + ", " + j + ")", x.same(i, j), due);
             }
         }
+        emptyOnesDiffer();
         x.clear(6);
         BENCH.due("both bare", x.same(6, 7), true);
         BENCH.due("one bare", x.same(0, 7), false);
@@ -137,6 +138,16 @@ public final class ShelfTest {
             BENCH.due("same(" + shelf + ", 0)", x.same(shelf, 0), false);
             BENCH.due("same(7, " + shelf + ")", x.same(7, shelf), false);
             BENCH.due("same(" + shelf + ", " + shelf + ")", x.same(shelf, shelf), false);
+        }
+    }
+
+    private static void emptyOnesDiffer() {
+        TallySlate x = Bench.loaded("fn k() { a = 0; b = []; c = rows([]); d = box(); }");
+        x.run(0, -1, 99);
+        for (int i = 0; i < 5; i++) {
+            for (int j = 0; j < 5; j++) {
+                BENCH.due("same(" + i + ", " + j + ") of empty ones", x.same(i, j), i == j);
+            }
         }
     }
 }

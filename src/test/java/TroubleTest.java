@@ -8,6 +8,7 @@ public final class TroubleTest {
         made();
         openCalls();
         taken();
+        triesEnd();
         fuel();
         tooMuch();
         BENCH.end();
@@ -100,6 +101,15 @@ public final class TroubleTest {
         told("fn k() { for x in 11 { try { raise x; } on y { } } }", 99, "11 40 0 34 3300 1 11");
         told("fn k() { try { try { raise 1; } on x { raise 2; } } on y { } }", 99, "0 -1 0 4 600 1 2");
         told("fn k() { try { raise 1; } on x { raise 2; } }", 99, "9 33 2 3 300 1 1");
+    }
+
+    /** A try that is over, or left by a return, takes nothing any more. */
+    private static void triesEnd() {
+        told("fn k() { try { } on x { } raise 1; }", 99, "9 26 1 2 0 1 0");
+        told("fn k() { l(); raise 1; } fn l() { try { return 1; } on x { } }", 99, "9 14 1 5 0 2 0");
+        told("fn k() { l(); raise 1; } fn l() { try { try { return 1; } on x { } } on x { } }", 99, "9 14 1 6 0 2 0");
+        told("fn k() { try { l(); raise 1; } on x { } } fn l() { try { return 1; } on x { } }", 99, "0 -1 0 6 300 2 1");
+        told("fn k() { try { raise 1; } on x { } raise 2; }", 99, "9 35 2 3 300 1 1");
     }
 
     private static void fuel() {
