@@ -709,7 +709,7 @@ public final class TallySlate {
         private void oneFunction() {
             passWord(Word.FN);
             functionName();
-            pass('(', true);
+            pass('(');
             variableCount = 0;
             if (tokens.kindNow() != ')') {
                 parameter();
@@ -718,7 +718,7 @@ public final class TallySlate {
                     parameter();
                 }
             }
-            pass(')', false);
+            pass(')');
             program.countParameters(variableCount);
             block();
             program.countVariables(variableCount);
@@ -746,11 +746,11 @@ public final class TallySlate {
         }
 
         private void block() {
-            pass('{', true);
+            pass('{');
             for (int i = 0; i < tokens.count() && tokens.kindNow() != '}'; i++) {
                 statement();
             }
-            pass('}', false);
+            pass('}');
         }
 
         private void statement() {
@@ -797,14 +797,14 @@ public final class TallySlate {
         }
 
         private void endCallStatement() {
-            pass(';', false);
+            pass(';');
             program.emit(Program.DROP, 0, 0);
         }
 
         private void plainStatement(int act, int place) {
             tokens.advance();
             expression(0);
-            pass(';', false);
+            pass(';');
             program.emit(act, 0, place);
         }
 
@@ -816,13 +816,13 @@ public final class TallySlate {
             int second = first;
             for (; indices < 2 && tokens.kindNow() == '['; indices++) {
                 second = tokens.placeNow();
-                pass('[', true);
+                pass('[');
                 expression(0);
-                pass(']', false);
+                pass(']');
             }
-            pass('=', false);
+            pass('=');
             expression(0);
-            pass(';', false);
+            pass(';');
             if (indices > 0) {
                 program.emit(Program.LOAD, variable, place);
                 program.emit(indices == 1 ? Program.PUT_PART : Program.PUT_CELL, second, first);
@@ -856,9 +856,9 @@ public final class TallySlate {
 
         /** The jump that is taken where the E is 0, which still has to be told where to. */
         private int condition(int place) {
-            pass('(', true);
+            pass('(');
             expression(0);
-            pass(')', false);
+            pass(')');
             return program.emit(Program.JUMP_ZERO, 0, place);
         }
 
@@ -954,9 +954,9 @@ public final class TallySlate {
             atom();
             for (int i = 0; i < tokens.count() && tokens.kindNow() == '['; i++) {
                 int place = tokens.placeNow();
-                pass('[', true);
+                pass('[');
                 expression(0);
-                pass(']', false);
+                pass(']');
                 program.emit(Program.INDEX, 0, place);
             }
         }
@@ -979,9 +979,9 @@ public final class TallySlate {
                     builtIn(wordNow());
                     break;
                 case '(':
-                    pass('(', true);
+                    pass('(');
                     expression(0);
-                    pass(')', false);
+                    pass(')');
                     break;
                 default:
                     int count = list('[', ']', 0, ANY_COUNT);
@@ -1016,16 +1016,16 @@ public final class TallySlate {
 
         /** each and fold: as many E come behind the name as the function has parameters. */
         private void walk(int count, int place) {
-            pass('(', true);
+            pass('(');
             failUnless(tokens.kindNow() == Tokens.NAME, CANNOT_COME);
             long name = tokens.valueNow();
             int namePlace = tokens.placeNow();
             tokens.advance();
             for (int i = 0; i < count; i++) {
-                pass(',', false);
+                pass(',');
                 expression(0);
             }
-            pass(')', false);
+            pass(')');
             program.emit(Program.WALK, 0, place);
             int next = program.emit(count == 1 ? Program.EACH_NEXT : Program.FOLD_NEXT, 0, place);
             noteCall(next, name, namePlace, count);
@@ -1034,7 +1034,7 @@ public final class TallySlate {
 
         /** How many E stand between two brackets, with commas between them. */
         private int list(int first, int last, int least, int most) {
-            pass(first, true);
+            pass(first);
             int count = 0;
             if (tokens.kindNow() != last) {
                 expression(0);
@@ -1047,7 +1047,7 @@ public final class TallySlate {
                 }
             }
             failUnless(tokens.kindNow() != last || count >= least, OTHER_COUNT);
-            pass(last, false);
+            pass(last);
             return count;
         }
 
@@ -1115,9 +1115,9 @@ public final class TallySlate {
             tokens.advance();
         }
 
-        private void pass(int sign, boolean opens) {
+        private void pass(int sign) {
             failUnless(tokens.kindNow() == sign, CANNOT_COME);
-            if (opens) {
+            if (sign == '(' || sign == '[' || sign == '{') {
                 failUnless(open < MOST_OPEN, TOO_MANY);
                 open++;
             } else if (sign == ')' || sign == ']' || sign == '}') {
