@@ -3,9 +3,28 @@ final class Bench {
     private final String name;
     private int checks;
     private int wrong;
+    private String sentence = "";
+    private int checksBefore;
 
     Bench(String name) {
         this.name = name;
+    }
+
+    /**
+     * The checks from here on are of that sentence of ../shared/DOC.md, in its own words; a sentence
+     * that no check follows is wrong too.
+     */
+    void sentence(String where, String words) {
+        endSentence();
+        sentence = " [" + where + ": " + words + "]";
+    }
+
+    private void endSentence() {
+        if (!sentence.isEmpty() && checks == checksBefore) {
+            wrong++;
+            System.out.println(name + sentence + " has no check");
+        }
+        checksBefore = checks;
     }
 
     void due(String call, long got, long want) {
@@ -20,12 +39,13 @@ final class Bench {
         checks++;
         if (!got.equals(want)) {
             wrong++;
-            System.out.println(name + ": " + call + " answered " + got + ", due is " + want);
+            System.out.println(name + sentence + ": " + call + " answered " + got + ", due is " + want);
         }
     }
 
     /** Ends the program, with exit code 1 if an answer was wrong. */
     void end() {
+        endSentence();
         System.out.println(name + ": " + checks + " checks, " + wrong + " wrong");
         System.exit(wrong == 0 && checks > 0 ? 0 : 1);
     }
@@ -67,6 +87,16 @@ final class Bench {
         return x.show(shelf) == TallySlate.NONE ? "bare" : kept(x);
     }
 
+    /** What can be asked of an object without changing it, but for the bytes that OUT has kept. */
+    static String state(TallySlate x) {
+        StringBuilder s = new StringBuilder();
+        s.append(x.fault(0)).append(' ').append(x.fault(1)).append(" | ");
+        for (int f = 0; f < 3; f++) {
+            s.append(x.function(f, 0)).append(' ').append(x.function(f, 1)).append(' ').append(x.function(f, 2)).append(' ');
+        }
+        return s.append("| ").append(troubles(x)).append(" | ").append(x.outs()).append(" | ").append(x.sum()).toString();
+    }
+
     static String troubles(TallySlate x) {
         StringBuilder s = new StringBuilder();
         for (int what = 0; what < 7; what++) {
@@ -91,8 +121,13 @@ final class Bench {
 
     /** A text's first function runs into that trouble at the ^. */
     void trouble(String marked, int kind) {
+        trouble(marked, kind, 20000);
+    }
+
+    /** With so much fuel, a text's first function runs into that trouble at the ^. */
+    void trouble(String marked, int kind, int fuel) {
         TallySlate x = loaded(plain(marked));
-        due("run of " + marked, x.run(0, 0, 20000), kind);
+        due("run of " + marked, x.run(0, 0, fuel), kind);
         due("trouble(0) of " + marked, x.trouble(0), kind);
         due("trouble(1) of " + marked, x.trouble(1), marked.indexOf('^'));
     }
@@ -112,6 +147,13 @@ final class Bench {
     /** An E runs into that trouble at the ^. */
     void fails(String expression, int kind) {
         trouble("fn main() { return " + expression + "; }", kind);
+    }
+
+    /** What trouble(0) to trouble(6) answer behind a text's first function. */
+    void tells(String text, int fuel, String troubles) {
+        TallySlate x = loaded(text);
+        x.run(0, TallySlate.NONE, fuel);
+        due("trouble() of " + text, troubles(x), troubles);
     }
 
     /** How many STEPS a text's first function has, and how many are MADE by it. */

@@ -14,12 +14,6 @@ public final class TroubleTest {
         BENCH.end();
     }
 
-    private static void told(String text, int fuel, String due) {
-        TallySlate x = Bench.loaded(text);
-        x.run(0, -1, fuel);
-        BENCH.due("trouble() of " + text, Bench.troubles(x), due);
-    }
-
     private static void answers() {
         TallySlate x = Bench.loaded("fn k() { raise 5; } fn l() { } fn m(x) { } fn n() { try { raise 6; } on x { } y = 1 / 0; }");
         for (int what = -1; what < 8; what++) {
@@ -39,7 +33,7 @@ public final class TroubleTest {
         x.run(3, 0, 9);
         BENCH.due("another kind has no INT", x.trouble(2), 0);
         BENCH.due("one was taken", x.trouble(6), 1);
-        told("fn k() { raise -7; }", 9, "9 9 -7 2 0 1 0");
+        BENCH.tells("fn k() { raise -7; }", 9, "9 9 -7 2 0 1 0");
     }
 
     private static void steps() {
@@ -90,47 +84,47 @@ public final class TroubleTest {
     }
 
     private static void openCalls() {
-        told("fn k() { l(); m(); } fn l() { m(); } fn m() { }", 99, "0 -1 0 6 0 3 0");
-        told("fn k() { k(); }", 99, "8 9 0 20 0 10 0");
-        told("fn k() { each(l, [1]); } fn l(x) { m(); } fn m() { }", 99, "0 -1 0 6 10 3 0");
-        told("fn k() { try { l(); } on x { } } fn l() { l(); }", 99, "0 -1 0 21 300 10 1");
+        BENCH.tells("fn k() { l(); m(); } fn l() { m(); } fn m() { }", 99, "0 -1 0 6 0 3 0");
+        BENCH.tells("fn k() { k(); }", 99, "8 9 0 20 0 10 0");
+        BENCH.tells("fn k() { each(l, [1]); } fn l(x) { m(); } fn m() { }", 99, "0 -1 0 6 10 3 0");
+        BENCH.tells("fn k() { try { l(); } on x { } } fn l() { l(); }", 99, "0 -1 0 21 300 10 1");
     }
 
     private static void taken() {
-        told("fn k() { for x in 10 { try { raise x; } on y { } } }", 99, "0 -1 0 32 3000 1 10");
-        told("fn k() { for x in 11 { try { raise x; } on y { } } }", 99, "11 40 0 34 3300 1 11");
-        told("fn k() { try { try { raise 1; } on x { raise 2; } } on y { } }", 99, "0 -1 0 4 600 1 2");
-        told("fn k() { try { raise 1; } on x { raise 2; } }", 99, "9 33 2 3 300 1 1");
+        BENCH.tells("fn k() { for x in 10 { try { raise x; } on y { } } }", 99, "0 -1 0 32 3000 1 10");
+        BENCH.tells("fn k() { for x in 11 { try { raise x; } on y { } } }", 99, "11 40 0 34 3300 1 11");
+        BENCH.tells("fn k() { try { try { raise 1; } on x { raise 2; } } on y { } }", 99, "0 -1 0 4 600 1 2");
+        BENCH.tells("fn k() { try { raise 1; } on x { raise 2; } }", 99, "9 33 2 3 300 1 1");
     }
 
     /** A try that is over, or left by a return, takes nothing any more. */
     private static void triesEnd() {
-        told("fn k() { try { } on x { } raise 1; }", 99, "9 26 1 2 0 1 0");
-        told("fn k() { l(); raise 1; } fn l() { try { return 1; } on x { } }", 99, "9 14 1 5 0 2 0");
-        told("fn k() { l(); raise 1; } fn l() { try { try { return 1; } on x { } } on x { } }", 99, "9 14 1 6 0 2 0");
-        told("fn k() { try { l(); raise 1; } on x { } } fn l() { try { return 1; } on x { } }", 99, "0 -1 0 6 300 2 1");
-        told("fn k() { try { raise 1; } on x { } raise 2; }", 99, "9 35 2 3 300 1 1");
+        BENCH.tells("fn k() { try { } on x { } raise 1; }", 99, "9 26 1 2 0 1 0");
+        BENCH.tells("fn k() { l(); raise 1; } fn l() { try { return 1; } on x { } }", 99, "9 14 1 5 0 2 0");
+        BENCH.tells("fn k() { l(); raise 1; } fn l() { try { try { return 1; } on x { } } on x { } }", 99, "9 14 1 6 0 2 0");
+        BENCH.tells("fn k() { try { l(); raise 1; } on x { } } fn l() { try { return 1; } on x { } }", 99, "0 -1 0 6 300 2 1");
+        BENCH.tells("fn k() { try { raise 1; } on x { } raise 2; }", 99, "9 35 2 3 300 1 1");
     }
 
     private static void fuel() {
         String text = "fn k() { x = 1 + 2; say x; }";
-        told(text, 1, "10 15 0 1 0 1 0");
-        told(text, 2, "10 20 0 2 0 1 0");
-        told(text, 3, "0 -1 0 3 0 1 0");
-        told("fn k() { while (1) { } }", 20000, "10 9 0 20000 0 1 0");
-        told("fn k() { try { while (1) { } } on x { } }", 50, "10 15 0 50 0 1 0");
-        told("fn k() { each(l, [1]); } fn l(x) { }", 3, "10 9 0 3 5 1 0");
-        told("fn k() { each(l, [1]); } fn l(x) { }", 2, "10 9 0 2 5 1 0");
-        told("fn k() { each(l, [1]); } fn l(x) { }", 1, "10 17 0 1 0 1 0");
-        told("fn k() { x = l(1); } fn l(x) { }", 1, "10 13 0 1 0 1 0");
-        told("fn k() { for x in 3 { } }", 3, "10 9 0 3 0 1 0");
+        BENCH.tells(text, 1, "10 15 0 1 0 1 0");
+        BENCH.tells(text, 2, "10 20 0 2 0 1 0");
+        BENCH.tells(text, 3, "0 -1 0 3 0 1 0");
+        BENCH.tells("fn k() { while (1) { } }", 20000, "10 9 0 20000 0 1 0");
+        BENCH.tells("fn k() { try { while (1) { } } on x { } }", 50, "10 15 0 50 0 1 0");
+        BENCH.tells("fn k() { each(l, [1]); } fn l(x) { }", 3, "10 9 0 3 5 1 0");
+        BENCH.tells("fn k() { each(l, [1]); } fn l(x) { }", 2, "10 9 0 2 5 1 0");
+        BENCH.tells("fn k() { each(l, [1]); } fn l(x) { }", 1, "10 17 0 1 0 1 0");
+        BENCH.tells("fn k() { x = l(1); } fn l(x) { }", 1, "10 13 0 1 0 1 0");
+        BENCH.tells("fn k() { for x in 3 { } }", 3, "10 9 0 3 0 1 0");
     }
 
     private static void tooMuch() {
         // 44 times 68 are 2,992.
-        told("fn k() { for x in 44 { row(64); } row(4); }", 20000, "0 -1 0 136 3000 1 0");
-        told("fn k() { for x in 44 { row(64); } row(5); }", 20000, "11 34 0 136 3001 1 0");
-        told("fn k() { for x in 44 { row(64); } row(65); }", 20000, "2 34 0 136 2992 1 0");
-        told("fn k() { for x in 44 { row(64); } x = iota(4); while (1) { y = 5; } }", 500, "10 59 0 500 3000 1 0");
+        BENCH.tells("fn k() { for x in 44 { row(64); } row(4); }", 20000, "0 -1 0 136 3000 1 0");
+        BENCH.tells("fn k() { for x in 44 { row(64); } row(5); }", 20000, "11 34 0 136 3001 1 0");
+        BENCH.tells("fn k() { for x in 44 { row(64); } row(65); }", 20000, "2 34 0 136 2992 1 0");
+        BENCH.tells("fn k() { for x in 44 { row(64); } x = iota(4); while (1) { y = 5; } }", 500, "10 59 0 500 3000 1 0");
     }
 }
