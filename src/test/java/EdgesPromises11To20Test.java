@@ -164,7 +164,8 @@ public final class EdgesPromises11To20Test {
     }
 
     private static void cellOfNone() {
-        BENCH.sentence("Promise 16", "an INT itself; INT i of a ROW; INT j of ROW i of a TABLE; of a PACK THING i if it is an INT, INT j of it if it is a ROW.");
+        BENCH.sentence("Promise 16", "an INT itself; INT i of a ROW; INT j of ROW i of a TABLE; of a PACK THING i if it is an INT, INT j of"
+                + " it if it is a ROW.");
         TallySlate x = filled();
         int[][] there = {{0, -5, 99, 7}, {1, 0, -9, 4}, {1, 2, 9, 6}, {2, 0, 0, 1}, {2, 0, 1, 2}, {2, 2, 0, 3}, {3, 0, -7, 8}, {3, 1, 0, 9}, {3, 1, 1, 10}};
         for (int[] t : there) {

@@ -14,6 +14,7 @@ public final class EdgesPromises1To5Test {
         everyByteHasItsPlace();
         tapeIsFull();
         tapeIsEmptiedByLoad();
+        bytesBehindAreNotRead();
         loadOfNothingAndOfTwelve();
         textBeforeStays();
         loadDoesNothing();
@@ -148,6 +149,28 @@ public final class EdgesPromises1To5Test {
             BENCH.due("load(1) behind load(" + n + ")", x.load(1), -2);
             BENCH.due("feed behind load(" + n + ")", x.feed(0, 0, 0, 0, 0), 20);
         }
+    }
+
+    private static void bytesBehindAreNotRead() {
+        BENCH.sentence("Promise 3", "The first n bytes of the tape");
+        String text = "fn kkkk(xx,yy){zz=1234==567;if(!xx<=yy){return[10>=9,8!=7];}else{say zz;}}# end\nfn mm(){}#";
+        for (int n = 0; n <= text.length(); n++) {
+            TallySlate whole = new TallySlate();
+            Bench.feed(whole, text);
+            TallySlate first = new TallySlate();
+            Bench.feed(first, text.substring(0, n));
+            BENCH.due("load(" + n + ")", whole.load(n), first.load(n));
+            BENCH.due("fault(0) of load(" + n + ")", whole.fault(0), first.fault(0));
+            BENCH.due("fault(1) of load(" + n + ")", whole.fault(1), first.fault(1));
+        }
+        TallySlate x = new TallySlate();
+        Bench.feed(x, "fn k() { x ==       ");
+        BENCH.due("load that ends in a sign", x.load(12), NONE);
+        BENCH.due("fault(1), behind the first =", x.fault(1), 12);
+        // What an earlier text had behind is none of the next one's.
+        Bench.feed(x, "fn k() {} fn l() {} ");
+        x.load(0);
+        BENCH.due("load of the first nine", Bench.load(x, "fn m() {}"), 1);
     }
 
     private static void loadOfNothingAndOfTwelve() {

@@ -127,6 +127,11 @@ public final class EdgesPromises6To10Test {
         BENCH.tells("fn k() { try { raise 7; } on x { } }", 9, "0 -1 0 2 300 1 1");
         BENCH.tells("fn k() { try { raise 7; } on x { } y = 1 / 0; }", 9, "6 41 0 4 300 1 1");
         BENCH.tells("fn k() { raise []; }", 9, "3 9 0 2 4 1 0");
+        for (int i = 0; i < TROUBLES.length; i++) {
+            TallySlate x = Bench.loaded("fn k() { try { raise 8; } on x { } " + TROUBLES[i] + " } fn l() { l(); }");
+            x.run(0, NONE, 2000);
+            BENCH.due("trouble(2) of " + TROUBLES[i], x.trouble(2), i + 1 == 9 ? 5 : 0);
+        }
     }
 
     private static void stepsDone() {
@@ -175,7 +180,8 @@ public final class EdgesPromises6To10Test {
     }
 
     private static void whicheverWasLater() {
-        BENCH.sentence("Promise 8", "Byte k of OUT: what was said in the latest run() that wasn't NONE, or the FORM of the latest show() (whichever was later)");
+        BENCH.sentence("Promise 8", "Byte k of OUT: what was said in the latest run() that wasn't NONE, or the FORM of the latest show()"
+                + " (whichever was later)");
         TallySlate x = Bench.loaded("fn k() { say 7; } fn l(x) { } fn m() { } fn n() { say 8; raise 1; }");
         x.set(0, 12345);
         x.run(0, NONE, 9);

@@ -114,7 +114,8 @@ public final class EdgesTerms1ThingsTest {
     }
 
     private static void bulkIsAtMost600() {
-        BENCH.sentence("Terms 1", "BULK: of an INT 1, of a ROW 1 and its SIZE, of a TABLE 1 and that of its ROWS, of a PACK 1 and that of its THINGS: at most 600.");
+        BENCH.sentence("Terms 1", "BULK: of an INT 1, of a ROW 1 and its SIZE, of a TABLE 1 and that of its ROWS, of a PACK 1 and that of"
+                + " its THINGS: at most 600.");
         String[][] pairs = {
             {"join(" + BULKY + ", iota(12))", "0"},
             {BULKY, "iota(13)"},

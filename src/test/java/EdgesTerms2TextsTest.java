@@ -270,7 +270,8 @@ public final class EdgesTerms2TextsTest {
     }
 
     private static void calls() {
-        BENCH.sentence("Terms 2", "CALL: a FUNCTION's NAME or a built-in's word, ( none or some E with , between ); or each ( NAME , E ), fold ( NAME , E , E ).");
+        BENCH.sentence("Terms 2", "CALL: a FUNCTION's NAME or a built-in's word, ( none or some E with , between ); or each ( NAME , E ),"
+                + " fold ( NAME , E , E ).");
         BENCH.fault("fn k() { k(); x = k(); l(1); l((1)); row(1); box(); each(l, 1); fold(m, 1, 2); } fn l(x) {} fn m(x, y) {}", 0);
         body("k(^,);", 2);
         body("k(1,^);", 2);
@@ -305,7 +306,14 @@ public final class EdgesTerms2TextsTest {
         BENCH.sentence("Terms 2", "NAMES are WORDS but fn if else while for in say return raise try on and the built-ins' words (4).");
         for (String word : STATEMENT_WORDS) {
             noName(word);
+            body("x = ^" + word + ";", 2);
+            body("x = ^" + word + "(1);", 2);
+            body("x = 1 + ^" + word + "(1, 2);", 2);
         }
+        body("^fn(1);", 2);
+        body("^else(1);", 2);
+        body("^in(1);", 2);
+        body("^on(1);", 2);
         for (String word : ONE_E) {
             noName(word);
         }

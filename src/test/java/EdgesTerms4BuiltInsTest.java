@@ -118,7 +118,8 @@ public final class EdgesTerms4BuiltInsTest {
     }
 
     private static void grid() {
-        said("grid(n, m): n ROWS of m 0s: GREAT if n is above 20, m above 64, or n times m above 200 and neither below 0; then SIZE if one is (also of 0 ROWS).");
+        said("grid(n, m): n ROWS of m 0s: GREAT if n is above 20, m above 64, or n times m above 200 and neither below 0; then SIZE if one"
+                + " is (also of 0 ROWS).");
         worth("grid(0, 0)", "{}", "grid(0, 64)", "{}", "size(grid(20, 0))", "20", "grid(2, 1)", "{[0][0]}", "size(grid(20, 10))", "20",
                 "widths(grid(3, 64))", "[64 64 64]", "size(grid(4, 50))", "4");
         fails(2, "grid(21, 0)", "grid(0, 65)", "grid(20, 11)", "grid(4, 51)", "grid(21, -1)", "grid(-1, 65)", "grid(65536, 65536)",
@@ -128,7 +129,8 @@ public final class EdgesTerms4BuiltInsTest {
     }
 
     private static void rows() {
-        said("rows(r): a TABLE whose ROWS have so many 0s: GREAT if r's SIZE is above 20, one of them above 64, or the sum of those above 0 above 200; then SIZE.");
+        said("rows(r): a TABLE whose ROWS have so many 0s: GREAT if r's SIZE is above 20, one of them above 64, or the sum of those above 0"
+                + " above 200; then SIZE.");
         worth("rows([])", "{}", "rows([0])", "{[]}", "rows([2, 0, 1])", "{[0 0][][0]}", "size(rows(row(20)))", "20", "widths(rows([64]))", "[64]",
                 "sum(widths(rows([64, 64, 64, 8])))", "200");
         fails(2, "rows(row(21))", "rows(row(21) - 1)", "rows([65])", "rows([65, -1])", "rows([-1, 65])", "rows([64, 64, 64, 9])",
@@ -190,13 +192,15 @@ public final class EdgesTerms4BuiltInsTest {
 
     private static void back() {
         said("back(x): r, t, k from the last one to the first one.");
-        worth("back([])", "[]", "back([5])", "[5]", "back([1, 2, 3])", "[3 2 1]", "back(rows([]))", "{}", "back([[1, 2], []])", "{[][1 2]}", "back(box())", "()",
+        worth("back([])", "[]", "back([5])", "[5]", "back([1, 2, 3])", "[3 2 1]", "back(rows([]))", "{}", "back([[1, 2], []])", "{[][1 2]}",
+                "back(box())", "()",
                 "back(box(1, [2, 3]))", "([2 3];1)");
     }
 
     private static void flat() {
         said("flat(x): of t all INTS, ROW by ROW; of k, that has INTS and ROWS alone (KIND): likewise; GREAT above 64.");
-        worth("flat(rows([]))", "[]", "flat([[], []])", "[]", "flat([[1, 2], [], [3]])", "[1 2 3]", "flat(box())", "[]", "flat(box(1, [], [2, 3], 4))", "[1 2 3 4]",
+        worth("flat(rows([]))", "[]", "flat([[], []])", "[]", "flat([[1, 2], [], [3]])", "[1 2 3]", "flat(box())", "[]",
+                "flat(box(1, [], [2, 3], 4))", "[1 2 3 4]",
                 "size(flat(grid(4, 16)))", "64", "size(flat(box(iota(63), 1)))", "64");
         fails(2, "flat(grid(5, 13))", "flat([iota(64), [1]])", "flat(box(iota(64), 1))", "flat(box(1, iota(64)))");
         fails(3, "flat(box([[]]))", "flat(box(box()))", "flat(box(1, rows([])))", "flat(box(iota(64), 1, box()))", "flat(box(rows([]), iota(64), 1))");
@@ -210,7 +214,8 @@ public final class EdgesTerms4BuiltInsTest {
     }
 
     private static void group() {
-        said("group(r): ROW i has the PLACES where r has i, for 0 to the greatest one (none without any): GREAT if that is above 19, then SIZE if one is below 0.");
+        said("group(r): ROW i has the PLACES where r has i, for 0 to the greatest one (none without any): GREAT if that is above 19, then"
+                + " SIZE if one is below 0.");
         worth("group([])", "{}", "group([0])", "{[0]}", "group([2, 0, 2])", "{[1][][0 2]}", "size(group([19]))", "20", "widths(group(row(64)))", "[64]");
         fails(2, "group([20])", "group([0, 20])", "group([20, -1])", "group([-1, 20])", "group([2147483647])");
         fails(1, "group([-1])", "group([19, -1])", "group([-1, 0])", "group([" + LEAST + "])");
@@ -224,7 +229,8 @@ public final class EdgesTerms4BuiltInsTest {
 
     private static void joinOfTables() {
         said("Of t and t: a TABLE of all ROWS; t and r, r and t: that ROW one more.");
-        worth("join([[1]], [[2], []])", "{[1][2][]}", "join(rows([]), rows([]))", "{}", "join([[1]], [2, 3])", "{[1][2 3]}", "join([2, 3], [[1]])", "{[2 3][1]}",
+        worth("join([[1]], [[2], []])", "{[1][2][]}", "join(rows([]), rows([]))", "{}", "join([[1]], [2, 3])", "{[1][2 3]}",
+                "join([2, 3], [[1]])", "{[2 3][1]}",
                 "join(rows([]), [])", "{[]}", "join([], rows([]))", "{[]}");
     }
 
@@ -271,7 +277,8 @@ public final class EdgesTerms4BuiltInsTest {
     }
 
     private static void cut() {
-        said("cut(x, r), x a ROW: stretches of it of so many INTS, in order: GREAT if r's SIZE is above 20; SIZE if one is below 0; UNLIKE if their sum (without bound) isn't x's SIZE.");
+        said("cut(x, r), x a ROW: stretches of it of so many INTS, in order: GREAT if r's SIZE is above 20; SIZE if one is below 0; UNLIKE"
+                + " if their sum (without bound) isn't x's SIZE.");
         worth("cut([1, 2, 3], [1, 2])", "{[1][2 3]}", "cut([], [])", "{}", "cut([], [0])", "{[]}", "cut([1, 2], [0, 2, 0])", "{[][1 2][]}",
                 "size(cut(iota(20), row(20) + 1))", "20", "widths(cut(iota(64), [64]))", "[64]", "widths(cut(iota(64), [0, 63, 1]))", "[0 63 1]");
         fails(2, "cut([], row(21))", "cut(iota(21), row(21) + 1)", "cut([], row(21) - 1)", "cut([1], row(21))");
@@ -283,7 +290,8 @@ public final class EdgesTerms4BuiltInsTest {
     private static void pick() {
         said("pick(x, r): those of r, t, k where r isn't 0: UNLIKE if the SIZES are.");
         worth("pick([5, 6, 7], [1, 0, -1])", "[5 7]", "pick([], [])", "[]", "pick([5], [0])", "[]", "pick([5], [" + LEAST + "])", "[5]",
-                "pick([[1], []], [0, 1])", "{[]}", "pick(rows([]), [])", "{}", "pick([[1]], [0])", "{}", "pick(box(1, [2]), [0, 256])", "([2])", "pick(box(), [])", "()");
+                "pick([[1], []], [0, 1])", "{[]}", "pick(rows([]), [])", "{}", "pick([[1]], [0])", "{}", "pick(box(1, [2]), [0, 256])", "([2])",
+                "pick(box(), [])", "()");
         fails(4, "pick([1], [])", "pick([], [0])", "pick([1, 2], [1])", "pick([[1]], [1, 1])", "pick(rows([]), [1])", "pick(box(1), [])", "pick(box(), [0])");
     }
 
@@ -306,13 +314,15 @@ public final class EdgesTerms4BuiltInsTest {
     private static void outer() {
         said("outer(x, y), ROWS: ROW i is x's INT i times y: GREAT if x's SIZE is above 20, or both's product above 200.");
         worth("outer([], [])", "{}", "outer([], iota(64))", "{}", "outer([1, 2], [])", "{[][]}", "outer([2, -3], [1, 4])", "{[2 8][-3 -12]}",
-                "size(outer(iota(20), []))", "20", "size(outer(iota(20), iota(10)))", "20", "size(outer(iota(3), iota(64)))", "3", "size(outer(iota(4), iota(50)))", "4");
+                "size(outer(iota(20), []))", "20", "size(outer(iota(20), iota(10)))", "20", "size(outer(iota(3), iota(64)))", "3",
+                "size(outer(iota(4), iota(50)))", "4");
         fails(2, "outer(iota(21), [])", "outer(iota(21), [1])", "outer(iota(20), iota(11))", "outer(iota(4), iota(51))", "outer(iota(64), iota(64))");
     }
 
     private static void same() {
         said("same(x, y): 1 if the kinds are the same and all in them is, else 0.");
-        String[] different = {"0", "1", "-1", "[]", "[0]", "[1]", "[0, 0]", "rows([])", "[[]]", "[[], []]", "[[0]]", "[[1], []]", "[[], [1]]", "box()", "box(0)",
+        String[] different = {"0", "1", "-1", "[]", "[0]", "[1]", "[0, 0]", "rows([])", "[[]]", "[[], []]", "[[0]]", "[[1], []]", "[[], [1]]",
+            "box()", "box(0)",
             "box([])", "box(rows([]))", "box(box())", "box([0])", "box(0, 0)", "box([1], 0)", "box(0, [1])", "box(box(0))", "box(box(box(box(1))))",
             "box(box(box(box(2))))"};
         for (int i = 0; i < different.length; i++) {
@@ -323,15 +333,18 @@ public final class EdgesTerms4BuiltInsTest {
     }
 
     private static void eachOfKinds() {
-        said("each(NAME, x): what the FUNCTION gives of each INT of r, ROW of t, THING of k: of k a PACK; of r and t a ROW if all are INTS, a TABLE if all are ROWS, KIND otherwise");
+        said("each(NAME, x): what the FUNCTION gives of each INT of r, ROW of t, THING of k: of k a PACK; of r and t a ROW if all are INTS,"
+                + " a TABLE if all are ROWS, KIND otherwise");
         String functions = " fn like(x) { return x; } fn one(x) { return 1; } fn pair(x) { return [7, 8]; } fn wrap(x) { return box(x); }"
                 + " fn table(x) { return [[1]]; } fn odd(x) { if (x) { return [x]; } return x; }";
         String[][] due = {{"like, [5, 6]", "[5 6]"}, {"pair, [5, 6]", "{[7 8][7 8]}"}, {"like, [[5], []]", "{[5][]}"}, {"one, [[5], []]", "[1 1]"},
-            {"one, box(5, [])", "(1;1)"}, {"pair, box(5)", "([7 8])"}, {"wrap, box(5, box())", "((5);(()))"}, {"table, box(1)", "({[1]})"}, {"odd, box(0, 1)", "(0;[1])"}};
+            {"one, box(5, [])", "(1;1)"}, {"pair, box(5)", "([7 8])"}, {"wrap, box(5, box())", "((5);(()))"}, {"table, box(1)", "({[1]})"},
+            {"odd, box(0, 1)", "(0;[1])"}};
         for (String[] d : due) {
             BENCH.gives("fn k() { return each(" + d[0] + "); }" + functions, d[1]);
         }
-        String[] kinds = {"like, 5", "wrap, [5]", "wrap, [[5]]", "table, [5]", "table, [[5]]", "odd, [0, 1]", "odd, [1, 0]", "odd, [0, 0, 0, 1]", "odd, [1, 1, 0]"};
+        String[] kinds = {"like, 5", "wrap, [5]", "wrap, [[5]]", "table, [5]", "table, [[5]]", "odd, [0, 1]", "odd, [1, 0]", "odd, [0, 0, 0, 1]",
+            "odd, [1, 1, 0]"};
         for (String kind : kinds) {
             BENCH.trouble("fn k() { return ^each(" + kind + "); }" + functions, 3);
         }
@@ -365,7 +378,8 @@ public final class EdgesTerms4BuiltInsTest {
     private static void fold() {
         said("fold(NAME, x, y): from x on: the FUNCTION of what there is by now and each INT, ROW, THING of y (r, t, k); the last one.");
         String functions = " fn plus(x, y) { return x + y; } fn both(x, y) { return box(x, y); } fn right(x, y) { return y; }";
-        String[][] due = {{"plus, 5, []", "5"}, {"plus, box(), rows([])", "()"}, {"plus, [], box()", "[]"}, {"plus, 1, [2, 3]", "6"}, {"both, 0, [1, 2, 3]", "(((0;1);2);3)"},
+        String[][] due = {{"plus, 5, []", "5"}, {"plus, box(), rows([])", "()"}, {"plus, [], box()", "[]"}, {"plus, 1, [2, 3]", "6"},
+            {"both, 0, [1, 2, 3]", "(((0;1);2);3)"},
             {"right, 0, [[1], [2, 3]]", "[2 3]"}, {"right, 0, box(1, box())", "()"}, {"plus, 1, iota(64)", "2017"}};
         for (String[] d : due) {
             BENCH.gives("fn k() { return fold(" + d[0] + "); }" + functions, d[1]);
