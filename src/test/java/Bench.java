@@ -130,6 +130,9 @@ final class Bench {
         due("run of " + marked, x.run(0, 0, fuel), kind);
         due("trouble(0) of " + marked, x.trouble(0), kind);
         due("trouble(1) of " + marked, x.trouble(1), marked.indexOf('^'));
+        if (kind != 9) {
+            due("trouble(2) of " + marked, x.trouble(2), 0);
+        }
     }
 
     /** A text's first function gives a thing of that form. */

@@ -233,6 +233,11 @@ public final class EdgesPromises11To20Test {
         BENCH.due("sum()", x.sum(), second);
         BENCH.due("back()", x.back(), true);
         BENCH.due("sum()", x.sum(), first);
+        BENCH.due("mark() again", x.mark(), 1);
+        x.set(0, 8);
+        x.add(1, 8);
+        BENCH.due("back() again", x.back(), true);
+        BENCH.due("sum()", x.sum(), first);
     }
 
     private static void theSeventhMark() {

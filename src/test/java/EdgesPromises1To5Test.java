@@ -23,6 +23,7 @@ public final class EdgesPromises1To5Test {
         faultWithout();
         faultOfOthers();
         functionOfEach();
+        functionOfTheOnlyOne();
         functionOfOthers();
         BENCH.end();
     }
@@ -197,6 +198,10 @@ public final class EdgesPromises1To5Test {
             BENCH.due("run(0, 0, 9)", x.run(0, 0, 9), 0);
             BENCH.due("cell(0, 0, 0)", x.cell(0, 0, 0), 5);
             BENCH.due("the tape is empty", x.load(1), -2);
+            BENCH.due("load of a sound one", Bench.load(x, "fn m() { return 6; }"), 1);
+            BENCH.due("fault(0)", x.fault(0), 0);
+            x.run(0, 0, 9);
+            BENCH.due("cell(0, 0, 0)", x.cell(0, 0, 0), 6);
         }
         TallySlate x = new TallySlate();
         BENCH.due("load of a fault, first", Bench.load(x, "fn k() {} $"), NONE);
@@ -287,6 +292,14 @@ public final class EdgesPromises1To5Test {
                 BENCH.due("function(" + f + ", " + what + ")", x.function(f, what), due[f][what]);
             }
         }
+    }
+
+    private static void functionOfTheOnlyOne() {
+        BENCH.sentence("Promise 5", "0 its PARAMETERS, 1 its VARIABLES, 2 where its NAME begins");
+        TallySlate x = Bench.loaded("\n fn n(i, j) { k = 1; }");
+        BENCH.due("function(0, 0)", x.function(0, 0), 2);
+        BENCH.due("function(0, 1)", x.function(0, 1), 3);
+        BENCH.due("function(0, 2)", x.function(0, 2), 5);
     }
 
     private static void functionOfOthers() {

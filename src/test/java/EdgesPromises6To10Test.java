@@ -94,6 +94,15 @@ public final class EdgesPromises6To10Test {
         BENCH.due("behind a NONE", Bench.troubles(x), "9 9 5 1 0 1 0");
         x.run(1, 0, 9);
         BENCH.due("behind one without", Bench.troubles(x), "0 -1 0 0 0 1 0");
+        TallySlate y = Bench.loaded("fn k() { try { l(); } on x { } } fn l() { y = row(9); raise 1; } fn m() { raise 2; }"
+                + " fn n() { try { while (1) { } } on x { } }");
+        y.run(0, 0, 9);
+        BENCH.due("of one with much to tell", Bench.troubles(y), "0 -1 0 6 313 2 1");
+        y.run(2, 0, 9);
+        BENCH.due("of the next one", Bench.troubles(y), "9 74 2 1 0 1 0");
+        y.run(3, 0, 9);
+        y.run(2, 0, 9);
+        BENCH.due("of one behind a try that never ended", Bench.troubles(y), "9 74 2 1 0 1 0");
         Bench.load(x, "fn k() { }");
         BENCH.due("behind a load", Bench.troubles(x), "0 -1 0 0 0 1 0");
     }

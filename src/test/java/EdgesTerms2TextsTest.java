@@ -20,6 +20,7 @@ public final class EdgesTerms2TextsTest {
         statements();
         otherStatements();
         chains();
+        wholeExpressions();
         oneComparison();
         oneSignAhead();
         literals();
@@ -235,6 +236,22 @@ public final class EdgesTerms2TextsTest {
         BENCH.fails("7^[0]", 3);
     }
 
+    /** Every E may have all signs, wherever it stands. */
+    private static void wholeExpressions() {
+        BENCH.sentence("Terms 2", "E: C {(& or |) C}. C: A");
+        BENCH.gives("fn k() { return [1 | 2, 4 | 8, 1 < 2]; }", "[3 12 1]");
+        BENCH.gives("fn k() { return l(1 | 2, 4 | 8); } fn l(x, y) { return [x | y, x == 3 & y == 12]; }", "[15 1]");
+        BENCH.gives("fn k() { x = row(4); x[1 | 2] = 4 | 8; y = [x]; y[0 | 0][0 | 1] = 1 | 16; return y; }", "{[0 17 0 12]}");
+        BENCH.gives("fn k() { if (0 | 1) { say 1; } while (0 & 1) { } for x in 1 | 2 { } return x | 4; }", "6");
+        BENCH.gives("fn k() { try { raise 1 | 2; } on x { } return (x | 4) * 2; }", "14");
+        BENCH.gives("fn k() { return iota(9)[1 | 2] + size(row(1 | 4)) + size(grid(1 | 2, 0 | 1)); }", "11");
+        BENCH.gives("fn k() { return each(l, [1, 2] | [4, 8]); } fn l(x) { return x; }", "[5 10]");
+        BENCH.gives("fn k() { return fold(l, 1 | 2, [4] | 8); } fn l(x, y) { return x + y; }", "15");
+        TallySlate x = Bench.loaded("fn k() { say 1 | 2; }");
+        x.run(0, 0, 9);
+        BENCH.due("said", Bench.kept(x), "3\n");
+    }
+
     private static void oneComparison() {
         BENCH.sentence("Terms 2", "C: A, perhaps one of == != < <= > >= and another A.");
         String[] signs = {"==", "!=", "<", "<=", ">", ">="};
@@ -286,6 +303,8 @@ public final class EdgesTerms2TextsTest {
         body("fold(k^);", 2);
         body("fold(k, 1^);", 2);
         body("fold(k, 1,^);", 2);
+        body("k();".repeat(390), 0);
+        body("k();".repeat(389) + "^m();", 6);
         body("x = k() ^k();", 2);
         body("k() ^+ 1;", 2);
     }

@@ -164,6 +164,7 @@ public final class EdgesTerms3SignsTest {
         BENCH.fails("[1, 2] ^/ 0", 6);
         BENCH.fails("1 ^% [5, 0]", 6);
         BENCH.fails("[[1], []] ^/ [[0], []]", 6);
+        BENCH.gives("fn k() { try { x = 1 / 0; } on x { } return [6 / 2, 7 % 4]; }", "[3 3]");
     }
 
     private static void theLeastOne() {

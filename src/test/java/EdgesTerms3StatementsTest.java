@@ -20,6 +20,7 @@ public final class EdgesTerms3StatementsTest {
         oneToNineAreTaken();
         tenAndElevenAreNot();
         whatATryEnds();
+        manyTries();
         takenIs300();
         whatNHas();
         whatWasPutStays();
@@ -128,6 +129,7 @@ public final class EdgesTerms3StatementsTest {
         }
         BENCH.gives("fn k() { if (0) { return 1; } else { return 2; } }", "2");
         BENCH.gives("fn k() { if (0) { return 1; } return 3; }", "3");
+        BENCH.gives("fn k() { x = 1; if (x) { x = 2; } else { x = 3; } if (0) { x = 4; } else { x = x * 5; } return x; }", "10");
         BENCH.gives("fn k() { while (0) { return 1; } return 2; }", "2");
         String[] others = {"[]", "[0]", "[1]", "[[1]]", "box(1)", "box()"};
         for (String other : others) {
@@ -217,9 +219,26 @@ public final class EdgesTerms3StatementsTest {
         BENCH.gives("fn k() { try { try { raise 1; } on x { raise x + 1; } } on y { return y; } }", "2");
         trouble("try { raise 1; } on x { ^raise 2; }", 9);
         trouble("try { } on x { } ^raise 2;", 9);
+        BENCH.tells("fn k() { try { } on x { } raise 2; }", 99, "9 26 2 2 0 1 0");
+        BENCH.tells("fn k() { try { try { } on x { } raise 2; } on y { } }", 99, "0 -1 0 3 300 1 1");
+        BENCH.tells("fn k() { l(); raise 2; } fn l() { try { return 1; } on x { } }", 99, "9 14 2 5 0 2 0");
+        BENCH.tells("fn k() { try { l(); raise 2; } on x { } } fn l() { try { try { return 1; } on x { } } on x { } }", 99, "0 -1 0 7 300 2 1");
         BENCH.trouble("fn k() { l(); ^raise 2; } fn l() { try { return 1; } on x { } }", 9);
         BENCH.gives("fn k() { for x in 3 { try { for y in 5 { for z in [[3]] { raise y; } } } on z { } } return [x, y]; }", "[2 0]");
         BENCH.gives("fn k() { return [1, l(), 2]; } fn l() { try { return [1, 2, [3, 4 / 0]]; } on x { return x; } }", "[1 6 2]");
+    }
+
+    private static void manyTries() {
+        BENCH.sentence("Terms 3", "in its BLOCK, and in all that is CALLED from there");
+        // Nine CALLS of l, each with six tries that are not ended, and a ROW that is half worked out.
+        String text = "fn k() { l(8); } fn l(n) { " + "try { ".repeat(6) + "if (n) { x = [1, 2, l(n - 1)]; } return row(-1); "
+                + "} on x { } ".repeat(6) + "say x; }";
+        TallySlate x = Bench.loaded(text);
+        BENCH.due("fault(0)", x.fault(0), 0);
+        BENCH.due("run", x.run(0, NONE, 20000), 0);
+        // Each CALL, from the innermost one on, has its trouble, takes it and says so.
+        BENCH.due("TAKEN", x.trouble(6), 9);
+        BENCH.due("said", Bench.kept(x), "1\n".repeat(9));
     }
 
     private static void takenIs300() {

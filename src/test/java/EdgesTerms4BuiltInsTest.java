@@ -342,6 +342,7 @@ public final class EdgesTerms4BuiltInsTest {
             {"odd, box(0, 1)", "(0;[1])"}};
         for (String[] d : due) {
             BENCH.gives("fn k() { return each(" + d[0] + "); }" + functions, d[1]);
+            BENCH.gives("fn k() { return box(9, each(" + d[0] + "), 9); }" + functions, "(9;" + d[1] + ";9)");
         }
         String[] kinds = {"like, 5", "wrap, [5]", "wrap, [[5]]", "table, [5]", "table, [[5]]", "odd, [0, 1]", "odd, [1, 0]", "odd, [0, 0, 0, 1]",
             "odd, [1, 1, 0]"};
@@ -384,6 +385,7 @@ public final class EdgesTerms4BuiltInsTest {
         for (String[] d : due) {
             BENCH.gives("fn k() { return fold(" + d[0] + "); }" + functions, d[1]);
         }
+        BENCH.gives("fn k() { return 100 - fold(plus, 1, [2, 3]) * 2; }" + functions, "88");
         BENCH.trouble("fn k() { return ^fold(plus, 0, 5); }" + functions, 3);
         BENCH.trouble("fn k() { return ^fold(plus, [], 0); }" + functions, 3);
         BENCH.trouble("fn k() { return fold(l, 0, iota(5)); } fn l(x, y) { return ^box(x); }", 2);
