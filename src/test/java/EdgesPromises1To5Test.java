@@ -168,6 +168,13 @@ public final class EdgesPromises1To5Test {
         Bench.feed(x, "fn k() { x ==       ");
         BENCH.due("load that ends in a sign", x.load(12), NONE);
         BENCH.due("fault(1), behind the first =", x.fault(1), 12);
+        String[] ends = {"fn k() { x = 2147483647", "fn k() { x = 0000000000", "fn abcdefgh"};
+        for (String end : ends) {
+            Bench.feed(x, end + end.charAt(end.length() - 1));
+            BENCH.due("load of " + end, x.load(end.length()), NONE);
+            BENCH.due("its fault(0), not that of a longer TOKEN", x.fault(0), 2);
+            BENCH.due("its fault(1)", x.fault(1), end.length());
+        }
         // What an earlier text had behind is none of the next one's.
         Bench.feed(x, "fn k() {} fn l() {} ");
         x.load(0);

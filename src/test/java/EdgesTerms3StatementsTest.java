@@ -20,6 +20,7 @@ public final class EdgesTerms3StatementsTest {
         oneToNineAreTaken();
         tenAndElevenAreNot();
         whatATryEnds();
+        nothingIsLeftBehind();
         manyTries();
         takenIs300();
         whatNHas();
@@ -118,6 +119,8 @@ public final class EdgesTerms3StatementsTest {
         BENCH.gives("fn k() { x = [[1, 2], [3, 4]]; x[0][0] = 7; x[1][1] = 9; return x; }", "{[7 2][3 9]}");
         BENCH.gives("fn k() { x = box(1, 2, 3); x[0] = []; x[2] = box(); return x; }", "([];2;())");
         BENCH.gives("fn k() { a = [1]; a[0] = 2; return a; }", "[2]");
+        BENCH.gives("fn k() { x = row(3); for y in 3 { x[y] = y + 5; } return x; }", "[5 6 7]");
+        BENCH.gives("fn k() { x = grid(2, 2); for y in 2 { for z in 2 { x[y][z] = y * 2 + z; } } return x; }", "{[0 1][2 3]}");
     }
 
     private static void ifAndWhile() {
@@ -226,6 +229,18 @@ public final class EdgesTerms3StatementsTest {
         BENCH.trouble("fn k() { l(); ^raise 2; } fn l() { try { return 1; } on x { } }", 9);
         BENCH.gives("fn k() { for x in 3 { try { for y in 5 { for z in [[3]] { raise y; } } } on z { } } return [x, y]; }", "[2 0]");
         BENCH.gives("fn k() { return [1, l(), 2]; } fn l() { try { return [1, 2, [3, 4 / 0]]; } on x { return x; } }", "[1 6 2]");
+    }
+
+    private static void nothingIsLeftBehind() {
+        BENCH.sentence("Terms 3", "ends that");
+        // Each of these is in the midst of a ROW, TABLE or PACK when the trouble comes.
+        String[] halves = {"[5, 6][[0, 1, 2]]", "[[5], [6]][[0, 1, 2]]", "box(5, 6)[[0, 1, 2]]", "max([[5], [6], []])", "flat(box(5, [6], box()))",
+            "[5, 6, [7]]", "[5, 6, 7 / 0]", "box(5, 6, y)", "l(5, y)", "[5, 6] / [1, 0]", "[[5], [6]] / [[1], [0]]", "each(m, [0, 0, 1])", "each(m, [1, 0])",
+            "fold(l, 5, [6, 7])", "join(iota(64), 5)"};
+        for (String half : halves) {
+            BENCH.gives("fn k() { z = [3, 4]; try { x = 1 + " + half + "; } on x { } return box([8], z, [[9], []], box(8), 1 + [2]); }"
+                    + " fn l(x, y) { return x[y]; } fn m(x) { if (x) { return x; } return []; }", "([8];[3 4];{[9][]};(8);[3])");
+        }
     }
 
     private static void manyTries() {
