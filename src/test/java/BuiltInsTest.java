@@ -143,6 +143,7 @@ public final class BuiltInsTest {
             {"find(a, -3)", "-1"}, {"find([1], a)", "[0 -1]"}, {"outer(a, a)", "{[1 2][2 4]}"}, {"pick(a, a)", "[1 2]"}, {"[5, 6, 7][a]", "[6 7]"},
             {"take(3, a)", "[1 2 0]"}, {"join(a, a)", "[1 2 1 2]"}, {"-a", "[-1 -2]"}, {"each(l, a)", "[2 3]"}, {"fold(m, 0, a)", "3"}};
         BENCH.gives("fn k() { a = [64, 64, 64, 8]; b = [1]; return widths(rows(a)); }", "[64 64 64 8]");
+        BENCH.gives("fn k() { x = iota(20); y = [[1, 2], [3]]; z = []; return turn(y); }", "{[1 3][2]}");
         for (String[] d : due) {
             BENCH.gives("fn k() { a = [1, 2]; b = [-3, 40, -5]; c = [40, -3]; return " + d[0] + "; } fn l(x) { return x + 1; } "
                     + "fn m(x, y) { return x + y; }", d[1]);
