@@ -136,6 +136,10 @@ public final class EdgesTerms1ThingsTest {
         BENCH.worth("size(box(join(" + BULKY + ", iota(12))))", "1");
         BENCH.fails("^take(11, join(" + BULKY + ", iota(13)))", 2);
         BENCH.worth("size(take(11, join(" + BULKY + ", iota(12))))", "11");
+        // How great or small the INTS are does not count.
+        BENCH.worth("box([1000, 1], 1000, [[1000], [1000]], box([1000]))", "([1000 1];1000;{[1000][1000]};([1000]))");
+        BENCH.fails("^join(join(" + BULKY + ", iota(12)), [-1000, -1000])", 2);
+        BENCH.fails("^join(join(" + BULKY + ", iota(12)), [[-1000]])", 2);
     }
 
     private static void bulkOfEmptyOnes() {

@@ -203,6 +203,7 @@ public final class EdgesTerms3RunningTest {
         BENCH.tells("fn k() { x = row(5); }", 1, "10 13 0 1 0 1 0");
         BENCH.tells("fn k() { l(); } fn l() { }", 1, "10 9 0 1 0 1 0");
         BENCH.tells("fn k() { l(); } fn l() { }", 2, "0 -1 0 2 0 2 0");
+        BENCH.trouble("fn k() { ^k(); }", 10, 2);
     }
 
     private static void eachStepNeedsFuel() {

@@ -324,7 +324,8 @@ public final class EdgesTerms4BuiltInsTest {
         String[] different = {"0", "1", "-1", "[]", "[0]", "[1]", "[0, 0]", "rows([])", "[[]]", "[[], []]", "[[0]]", "[[1], []]", "[[], [1]]",
             "box()", "box(0)",
             "box([])", "box(rows([]))", "box(box())", "box([0])", "box(0, 0)", "box([1], 0)", "box(0, [1])", "box(box(0))", "box(box(box(box(1))))",
-            "box(box(box(box(2))))"};
+            "box(box(box(box(2))))", "box(box(box(box([2]))))", "box(box(box(box([3]))))", "box(box(box(box([[1], [2]]))))",
+            "box(box(box(box([[1], [3]]))))"};
         for (int i = 0; i < different.length; i++) {
             for (int j = 0; j < different.length; j++) {
                 BENCH.worth("same(" + different[i] + ", " + different[j] + ")", i == j ? "1" : "0");
